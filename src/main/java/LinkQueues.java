@@ -461,7 +461,10 @@ public final class LinkQueues {
                 return false;
             }
             if (!drops) {
-                beginToDrop(time);
+                drops = true;
+                count = countToBeginWith(time);
+                last = count;
+                next = time + interval / root(count);
                 return true;
             }
             if (time < next) {
@@ -485,12 +488,9 @@ public final class LinkQueues {
             return time >= above;
         }
 
-        private void beginToDrop(int time) {
+        private int countToBeginWith(int time) {
             int more = count - last;
-            count = more > 1 && time - next < 16.0 * interval ? more : 1;
-            last = count;
-            next = time + interval / root(count);
-            drops = true;
+            return more > 1 && time - next < 16.0 * interval ? more : 1;
         }
 
         private static double root(int n) {

@@ -20,6 +20,7 @@ final class PromisesTest {
         test.meanRefusesArguments();
         test.delayLosesFasterAndFaster();
         test.delayGoesOnWhereItWas();
+        test.delayGoesOnForSixteenIntervals();
         test.delayByItsFirstNumbers();
         test.delayNeedsLateness();
         test.delayMarksOnlyOnce();
@@ -138,7 +139,10 @@ final class PromisesTest {
         // COUNT is -1 again, hence 0 now: p is 0.6 and d is 1.0.
         checks.due("coins waiting before", x.coin(0.7), 1);
         checks.due("with COUNT 0 a coin of 0.7 is not below 0.6", x.come(0, 100, false), 2);
-        checks.due("that coin was used", x.coin(0.0), 1);
+        checks.due("that coin was used", x.coin(0.4), 1);
+        x.kind(0, 1, 1500);
+        x.mean(0, 0.0, 5.0, 1.0, 1.0);
+        checks.due("with COUNT 0 a coin of 0.4 is below 3.0 / 5.0", x.come(0, 100, false), -1);
 
         LinkQueues y = new LinkQueues();
         y.kind(0, 1, 1500);
@@ -184,23 +188,26 @@ final class PromisesTest {
     private void meanByItsFirstNumbers() {
         LinkQueues x = new LinkQueues();
         x.kind(2, 1, 1500);
+        x.coin(0.0);
         comeMany(x, 2, 4, 10);
         checks.due("WEIGHT 0.25", x.average(2), 0.25 * 1 + 0.25 * (2 - 0.25) + 0.25 * (3 - 0.6875));
         comeMany(x, 2, 4, 10);
-        checks.due("below LOW 5.0 no coin is used", x.coin(0.0), 1);
+        checks.due("below LOW 5.0", x.average(2), 4.40045166015625);
+        checks.due("no coin is used there", x.coin(0.05), 2);
         checks.due("above LOW a coin of 0.0 hits", x.come(2, 10, false), -1);
+        checks.due("it was used", x.coin(0.05), 2);
         // With COUNT 1 and then 2, p / d is about 0.01 and 0.02.
-        x.coin(0.05);
-        x.coin(0.05);
         checks.due("TOP 0.1: coin 0.05 does not hit", x.come(2, 10, false), 9);
         checks.due("TOP 0.1: coin 0.05 does not hit again", x.come(2, 10, false), 10);
-        for (int k = 0; k < 40; k++) {
-            x.come(2, 10, true);
+        double average = x.average(2);
+        for (int n = 10; n < 30; n++) {
+            average = average + 0.25 * (n - average);
+            checks.due("HIGH 15.0, average " + average, x.come(2, 10, true) == -1 ? 1 : 0, average >= 15.0 ? 1 : 0);
+            if (average >= 15.0) {
+                break;
+            }
         }
-        checks.due("HIGH 15.0", x.average(2) >= 15.0 ? 1 : 0, 1);
-        int packets = x.count(2, 6);
-        checks.due("at HIGH or above all go", x.come(2, 10, true), -1);
-        checks.due("at HIGH or above none is added", x.count(2, 6), packets);
+        checks.due("HIGH was reached", x.count(2, 3), 2);
     }
 
     private void meanBetweenLowAndHigh() {
@@ -208,6 +215,17 @@ final class PromisesTest {
         checks.due("below LOW it stays", x.come(0, 10, false), 0);
         checks.due("without a coin it is 0.5, not below 0.5", x.come(0, 10, false), 1);
         checks.due("average", x.average(0), 1.0);
+        x.mean(0, 1.0, 2.5, 1.0, 1.0);
+        // COUNT is 1, p is 1.0 / 1.5: d is below p.
+        checks.due("without a coin 0.5 is below p / d", x.come(0, 10, false), -1);
+        LinkQueues quarter = exactMean(0.0, 4.0, 1.0);
+        quarter.come(0, 10, false);
+        checks.due("without a coin 0.5 is not below 0.25 / 0.75", quarter.come(0, 10, false), 1);
+        LinkQueues most = exactMean(0.0, 1.25, 1.0);
+        most.kind(0, 0, 1500);
+        most.come(0, 10, false);
+        most.kind(0, 1, 1500);
+        checks.due("without a coin 0.5 is below 0.8", most.come(0, 10, false), -1);
 
         LinkQueues y = exactMean(0.5, 1.5, 1.0);
         y.come(0, 10, false);
@@ -233,11 +251,14 @@ final class PromisesTest {
 
     private void meanCountsSinceTheLastHit() {
         LinkQueues x = exactMean(0.0, 8.0, 0.5);
+        for (int k = 0; k < 4; k++) {
+            x.coin(0.9);
+        }
+        checks.due("five coins", x.coin(0.0), 5);
         comeMany(x, 0, 5, 10);
         // With 1, 2, 3, 4 in the queue COUNT * p is 1/16, 4/16, 9/16, 16/16.
         dueCounts("d of 0.0 hits", x, 0, 5, 0, 0, 1, 0, 0, 4);
-        x.coin(0.0);
-        x.coin(0.34);
+        checks.due("d of 0.0 uses no coin", x.coin(0.34), 2);
         // COUNT is 0 after the hit, 1 now: p is 0.25, d is 0.75.
         checks.due("a coin below p / d hits", x.come(0, 10, false), -1);
         checks.due("a coin above p / d does not", x.come(0, 10, false), 6);
@@ -261,7 +282,7 @@ final class PromisesTest {
     }
 
     private void meanRefusesEvenMarkable() {
-        LinkQueues x = exactMean(0.0, 1.0, 1.0);
+        LinkQueues x = exactMean(0.5, 1.0, 1.0);
         x.come(0, 10, false);
         x.coin(0.9);
         checks.due("at HIGH a markable one goes", x.come(0, 10, true), -1);
@@ -390,6 +411,39 @@ final class PromisesTest {
         checks.due("at 66 it does not drop", late.next(0), -1.0);
         late.tick(1);
         checks.due("after a long time COUNT is 1", late.next(0), 70.0);
+
+        LinkQueues two = new LinkQueues();
+        two.kind(0, 2, 1500);
+        two.delay(0, 2.0, 3.0);
+        comeMany(two, 0, 15, 100);
+        two.tick(11);
+        checks.due("three were lost", two.count(0, 4), 3);
+        comeMany(two, 0, 20, 100);
+        two.tick(5);
+        checks.due("COUNT is 3 - 1", two.next(0), 16.0 + 3.0 / Model.root(2));
+    }
+
+    private void delayGoesOnForSixteenIntervals() {
+        double next = 8.0;
+        for (int count = 2; count <= 5; count++) {
+            next = next + 3.0 / Model.root(count);
+        }
+        double sixteenth = (19.0 - next) / 16.0;
+        LinkQueues x = droppingAgain(sixteenth);
+        checks.due("not below 16.0 * INTERVAL: COUNT is 1", x.next(0), 19.0 + sixteenth);
+        double more = Math.nextUp(sixteenth);
+        LinkQueues y = droppingAgain(more);
+        checks.due("below 16.0 * INTERVAL: COUNT is 4", y.next(0), 19.0 + more / 2.0);
+    }
+
+    private static LinkQueues droppingAgain(double interval) {
+        LinkQueues x = dropping();
+        x.tick(14);
+        comeMany(x, 0, 20, 100);
+        x.tick(4);
+        x.delay(0, 0.125, interval);
+        x.tick(1);
+        return x;
     }
 
     private void delayByItsFirstNumbers() {
@@ -406,11 +460,13 @@ final class PromisesTest {
 
         LinkQueues y = new LinkQueues();
         y.kind(1, 2, 1500);
-        y.delay(1, 3.0, 100.0);
         y.link(1.0, 1000000);
-        comeMany(y, 1, 60, 4);
+        comeMany(y, 1, 90, 5);
+        // One goes every five ticks: at 1, 5, 10, ..; a WAIT of 5 is not below 5.0.
         y.tick(104);
-        checks.due("TARGET 3.0: at 104 it is above 4 + 100.0", y.count(1, 4), 1);
+        checks.due("at 104 it is not above 5 + 100.0", y.count(1, 4), 0);
+        y.tick(1);
+        checks.due("TARGET 5.0", y.count(1, 4), 1);
     }
 
     private void delayNeedsLateness() {
@@ -806,6 +862,14 @@ final class PromisesTest {
         x.tick(1);
         // 0 has 500, 1 has 500 and sends; 0 has 1000, 1 has 500; 0 has 1500 and sends, 300 are left of it.
         dueNumbers("in turns", x, 3, 2, 0, 1);
+
+        LinkQueues exact = new LinkQueues();
+        exact.kind(0, 0, 500);
+        exact.come(0, 500, false);
+        exact.come(0, 1, false);
+        exact.come(1, 1, false);
+        exact.tick(10);
+        dueNumbers("as many bytes as DEFICIT go", exact, 1, 2, 0);
 
         LinkQueues y = new LinkQueues();
         y.kind(0, 0, 1);
