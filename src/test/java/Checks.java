@@ -44,6 +44,15 @@ final class Checks {
         }
     }
 
+    void taken(String what, Runnable call) {
+        made++;
+        try {
+            call.run();
+        } catch (RuntimeException e) {
+            tell(what + " threw " + e + ", due is nothing");
+        }
+    }
+
     void end() {
         System.out.println(made + " checks, " + wrong + " wrong");
         if (wrong != 0) {
